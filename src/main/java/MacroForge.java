@@ -49,9 +49,7 @@ public final class MacroForge {
         if (!isTerm || fuel < 0 || fuel > MOST_FUEL) {
             throw new IllegalArgumentException("the draft is no term, or the fuel is not 0 .. 12");
         }
-        expansion.start(book, fuel);
-        expansion.expression(0, 1);
-        return expansion.result().finish();
+        return expansion.run(book, fuel);
     }
 
     public int replaced() {
@@ -263,24 +261,6 @@ public final class MacroForge {
             }
             repeated[last] = true;
             return true;
-        }
-
-        /** Adds a term that lies in this row, with its stamps; false if there is no room for it. */
-        boolean copy(int node) {
-            if (!add(sign[node], stamp[node])) {
-                return false;
-            }
-            if (sign[node] != LIST) {
-                return true;
-            }
-            int item = node + 1;
-            for (int k = 0; k < items[node]; k++) {
-                if (!copy(item)) {
-                    return false;
-                }
-                item = after(item);
-            }
-            return close();
         }
     }
 
@@ -609,15 +589,18 @@ public final class MacroForge {
             return terms.read(text, 0, text.length(), Terms.PLAIN);
         }
 
-        void start(RuleBook rules, int replacements) {
+        /** Expands what was read: how many marks the result has. */
+        int run(RuleBook rules, int replacements) {
             book = rules;
             fuel = replacements;
             made = 0;
             bound = 0;
             result.clear();
+            expression(0, 1);
+            return result.finish();
         }
 
-        void expression(int node, int deep) {
+        private void expression(int node, int deep) {
             if (deep > DEEPEST) {
                 throw new UnsupportedOperationException("an expression is more than 12 deep");
             }
@@ -774,12 +757,12 @@ public final class MacroForge {
             return null;
         }
 
-        /** Adds a template's term, its MANYs being what they matched at a copy's place. */
+        /** Adds a template's term, a MANY being what it matched at a place; false if it is too large. */
         private boolean fill(Rule rule, int node, int copy) {
             Terms from = rule.terms();
             char c = from.sign(node);
             if (rule.isVariable(c)) {
-                return terms.copy(match.term(c, rule.isMany(c) ? copy : 0));
+                return copy(match.term(c, rule.isMany(c) ? copy : 0));
             }
             if (!terms.add(c, isName(c) ? made + 1 : 0)) {
                 return false;
@@ -797,6 +780,25 @@ public final class MacroForge {
                     }
                 }
                 item = from.after(item);
+            }
+            return terms.close();
+        }
+
+        /** Adds a term that was matched, with its stamps. */
+        private boolean copy(int node) {
+            char c = terms.sign(node);
+            if (!terms.add(c, terms.stamp(node))) {
+                return false;
+            }
+            if (c != LIST) {
+                return true;
+            }
+            int item = node + 1;
+            for (int k = 0; k < terms.items(node); k++) {
+                if (!copy(item)) {
+                    return false;
+                }
+                item = terms.after(item);
             }
             return terms.close();
         }

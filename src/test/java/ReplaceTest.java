@@ -236,6 +236,8 @@ final class ReplaceTest {
         is("(m (((((((Q 1))))))))", 1, nest(11, "1 5 11 2"), "(m x)=(((((x)))))");
         is("(m (((((((L y y))))))))", 1, Checks.UNSUPPORTED, "(m x)=(((((x)))))");
         is("(m (((((((I 1 1 1))))))))", 1, Checks.UNSUPPORTED, "(m x)=(((((x)))))");
+        is("(m ((((((I 1 1 1)))))))", 1, nest(10, "1 4 11 11 11 2"), "(m x)=(((((x)))))");
+        is("(m ((((((L y y)))))))", 1, nest(10, "1 3 200 2"), "(m x)=(((((x)))))");
         // It is looked at before all else of it, but not before what is outside of it.
         is("(m (((((((L))))))))", 1, Checks.ILLEGAL_STATE, "(m x)=(((((x)))))");
         is("(m (((((((1 L))))))))", 1, Checks.UNSUPPORTED, "(m x)=(((((x)))))");

@@ -23,6 +23,10 @@ final class ReplacedTest {
         // The result had too many marks, but all replacements were made.
         after("((c (c (1 1 1 1 1 1 1 1 1 1 1 1 1))) 1 1 1 1 1 1)", 12, 4, "(c x)=(x x x)");
 
+        // Twelve replacements of the largest size.
+        after("(m(" + "1".repeat(55) + "))", 12, 12, "(m x)=(m x 1 1)", "(m x _ _)=(m x 1 1)");
+        after("(m(" + "1".repeat(55) + "))", 12, 0, "(m x)=(m x 1 1 1)");
+
         whatChangesIt();
         CHECKS.end();
     }

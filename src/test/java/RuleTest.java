@@ -43,7 +43,8 @@ final class RuleTest {
     private static void refusedTexts() {
         isNone("", " ", "=", "(a)", "(a)=", "=1", "(a)=1=1", "(a)==1", "(a=1", "a)=1", "(a)=(1",
                 "(a)=1)", "(a)=1 2", "(a)(b)=1", "((a)=1", "(a))=1");
-        isNone("(a A)=1", "(a)=A", "(a +)=1", "(a)=+", "(a 'x)=1", "(a [x])=1", "(a {)=1", "(a `)=1");
+        isNone("(a A)=1", "(a)=A", "(a +)=1", "(a)=+", "(a 'x)=1", "(a [x])=1", "(a {)=1",
+                "(a `)=1");
     }
 
     private static void refusedPatterns() {

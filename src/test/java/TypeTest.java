@@ -23,13 +23,15 @@ final class TypeTest {
         checks.same("character 61", false, forge.type('7'));
         checks.same("blank 61", false, forge.type(' '));
         checks.same("60 characters are a text", "17", Checks.expand(forge, "", 0));
-        checks.same("room again behind expand()", true, forge.type('1'));
-        for (int n = 1; n < 60; n++) {
-            forge.type('1');
+        for (int n = 0; n < 60; n++) {
+            checks.same("character " + n + " behind expand()", true, forge.type('1'));
         }
         checks.same("full again", false, forge.type('1'));
         checks.same("no rule", Checks.ILLEGAL_ARGUMENT, Checks.rule(forge, ""));
-        checks.same("room again behind rule()", true, forge.type('1'));
+        for (int n = 0; n < 60; n++) {
+            checks.same("character " + n + " behind rule()", true, forge.type('1'));
+        }
+        checks.same("full once more", false, forge.type('1'));
     }
 
     private static void refusedLeaveNothing(Checks checks) {

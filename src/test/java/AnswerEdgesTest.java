@@ -37,6 +37,11 @@ final class AnswerEdgesTest {
         replacedThen("(Q (m 1))", 12, "", 0, "(m x)=x");
         replacedThen("(L m (m 1))", 12, "", 0, "(m x)=x");
         replacedThen("7", 12, "", 0, "(m x)=x");
+        MacroForge forge = Checks.forge("(m)=7");
+        for (int n : new int[] {3, 1, 0, 12, 2}) {
+            Checks.expand(forge, "(1" + "(m)".repeat(n) + ")", 12);
+            CHECKS.same("of one object, behind " + n, n, forge.replaced());
+        }
     }
 
     private static void latestExpansion() {

@@ -150,6 +150,9 @@ final class ExpandEdgesTest {
         CHECKS.expands("(11111(m 1 1)(m(1111111111111)1))", 2, "1 11 11 11 11 11"
                 + " 1 11 11 11 11 11 11 11 2 1" + (" 1" + " 11".repeat(13) + " 2").repeat(4)
                 + " 11 11 11 2 2", "(m x y)=(x x x x y y y)");
+        // Nor do eleven of the largest.
+        replacedThen("(m" + "1".repeat(57) + ")", 12, 12, "(m x~)=(o 1 x~)", "(o x~)=(o x~)");
+        replacedThen("(m" + "1".repeat(57) + ")", 12, 1, "(m x~)=(o 1 x~)", "(o x~)=(o 1 x~)");
     }
 
     /** A replacement that makes a term of a size. */
@@ -222,7 +225,7 @@ final class ExpandEdgesTest {
 
     private static void beforeAllElse() {
         CHECKS.sentence("(this is looked at before all else of it)");
-        // In five lists of the text and six of the first rule, x is 12 deep; by the second, 13 deep.
+        // In five lists of the text and six of the first rule, x is 12 deep; by the second, 13.
         String twelve = "(m x)=((((((L y x))))))";
         String thirteen = "(m x)=(((((((L y x)))))))";
         String[] others = {"(n x)=1", "(o (x~) (y~))=((x y)~)"};
@@ -337,15 +340,16 @@ final class ExpandEdgesTest {
         CHECKS.expands("(m (((((((1))))))))", 1, Checks.UNSUPPORTED, "(m x)=(L (((((x))))))");
         CHECKS.expands("(m (((((((1))))))))", 1, Checks.ILLEGAL_STATE, "(m x)=(L ((((x)))))");
         // Nor is a later rule taken that would make less.
-        CHECKS.expands("(m (1111111111111))", 1, Checks.UNSUPPORTED, "(m x)=(x x x x x)", "(m x)=7");
+        CHECKS.expands("(m (1111111111111))", 1, Checks.UNSUPPORTED, "(m x)=(x x x x x)",
+                "(m x)=7");
     }
 
     private static void noResultThen() {
         CHECKS.sentence("After what is thrown there is no result");
         String[] rules = {"(m)=((7))", "(n (x~) (y~))=((x y)~)", "(d x)=(x x x x x x x x x x)",
             "(e x)=((((((((x))))))))", TRIPLE};
-        String[] throwing = {"()", "(1 2 L)", "(1 (m 1))", "(1 (n (1) ()))", "(1 " + "(m)".repeat(13)
-            + ")", "(1 (d (1 1 1 1 1)))", "(1 (e (((((1)))))))", "((((((e 1))))))",
+        String[] throwing = {"()", "(1 2 L)", "(1 (m 1))", "(1 (n (1) ()))",
+            "(1 " + "(m)".repeat(13) + ")", "(1 (d (1 1 1 1 1)))", "(1 (e (((((1)))))))", "((((((e 1))))))",
             "(" + WIDE + "111111)"};
         for (String text : throwing) {
             MacroForge forge = Checks.forge(rules);

@@ -197,7 +197,7 @@ final class ExpandingEdgesTest {
 
     private static void oneDeeper() {
         CHECKS.sentence("Items are one deeper than their list.");
-        // Each kind of list, 11 deep with items that are 12 deep, and 12 deep with items that are 13.
+        // Each kind of list, 11 deep with items 12 deep, and 12 deep with items 13 deep.
         String[][] forms = {{"1", "1 11 2"}, {"1 2 3", "1 11 12 13 2"}, {"L x x", "1 3 200 2"},
             {"I 1 2 3", "1 4 11 12 13 2"}};
         for (String[] form : forms) {

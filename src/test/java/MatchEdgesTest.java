@@ -109,6 +109,7 @@ final class MatchEdgesTest {
         matches(true, "(m m~)", "(m)");
         matches(false, "(m 1 1~)", "(m)");
         matches(false, "(m 1)", "(m)");
+        CHECKS.expands("(m 1 2)", 1, "1 11 12 2", "(m m~)=(m~)");
     }
 
     private static void firstOfItsRules() {
@@ -129,7 +130,7 @@ final class MatchEdgesTest {
         CHECKS.expands("(m (3 4) 5)", 1, "1 13 14 2", "(m (x~) 6)=1", "(m (x~) 5)=(x~)");
         CHECKS.expands("(m 3 4)", 1, "1 14 13 2", "(m x 5)=1", "(m y x)=(x y)");
 
-        // Which were told, not which there once were: all of twelve, and one behind those forgotten.
+        // All of twelve, and those that are told when others were forgotten.
         MacroForge forge = new MacroForge();
         for (int n = 0; n < 12; n++) {
             Checks.rule(forge, "(" + (n % 2 == 0 ? "m" : "n") + "1".repeat(n) + ")=" + n % 10);

@@ -80,9 +80,8 @@ final class RuleEdgesTest {
         }
         CHECKS.same("in their order", "1 5 1 100 101 11 2 2", Checks.expand(forge, "", 0));
         Checks.type(forge, "(Q(");
-        CHECKS.same("other calls leave it", "0 0 0 1 5", forge.rules() + " " + forge.replaced() + " "
-                + forge.forget('a') + " " + forge.mark(0) + " " + forge.mark(1));
-        CHECKS.same("depth() leaves it", 2, forge.depth());
+        CHECKS.same("other calls leave it", "0 0 0 1 2", forge.rules() + " " + forge.replaced()
+                + " " + forge.forget('a') + " " + forge.mark(0) + " " + forge.depth());
         CHECKS.same("all of it", "1 5 1 101 100 2 2", Checks.expand(forge, "ba))", 0));
     }
 
@@ -180,7 +179,27 @@ final class RuleEdgesTest {
         CHECKS.same("none that begins well", Checks.ILLEGAL_ARGUMENT, Checks.rule(forge, "(n)=(3"));
         CHECKS.same("the others stay", "2 11 12", forge.rules() + " "
                 + Checks.expand(forge, "(m 1)", 1) + " " + Checks.expand(forge, "(n)", 1));
-        CHECKS.same("and are counted", "2", Checks.rule(forge, "(m)=1"));
+        CHECKS.same("none that would match", Checks.ILLEGAL_ARGUMENT,
+                Checks.rule(forge, "(n y)=(y"));
+        CHECKS.same("it doesn't", Checks.ILLEGAL_STATE, Checks.expand(forge, "(n 1)", 1));
+        CHECKS.same("the others are counted", "2", Checks.rule(forge, "(m)=1"));
+        leavesNothing("(m x y~)=_", "(m x)=(x y)", "(m 1)", "1 11 124 2");
+        leavesNothing("(m x t u)=_", "(m x)=(x t u)", "(m 1)", "1 11 119 120 2");
+        leavesNothing("(m x~)=x", "(m x)=(Q x)", "(m 1)", "1 5 11 2");
+        leavesNothing("(m x)=(x~)", "(m x~)=(x~)", "(m 1 2)", "1 11 12 2");
+        leavesNothing("(m x~)=(x~ x x)", "(m x~)=(x~)", "(m 1 2)", "1 11 12 2");
+        leavesNothing("(m x~)=(x~ x~ x)", "(m x~)=(x~)", "(m 1 2)", "1 11 12 2");
+        leavesNothing("(m x~)=(x~ 1~)", "(m x~)=(x~)", "(m 1 2)", "1 11 12 2");
+        leavesNothing("(m (x~) (y~))=(x~ (x y)~ _)", "(m (x~) (y~))=(x~ y~)", "(m (1) (2 3))",
+                "1 11 12 13 2");
+    }
+
+    /** What is no rule changes nothing of a rule that is told behind it. */
+    private static void leavesNothing(String none, String rule, String use, String due) {
+        MacroForge forge = new MacroForge();
+        CHECKS.same("rule() of " + none, Checks.ILLEGAL_ARGUMENT, Checks.rule(forge, none));
+        CHECKS.same("rule() of " + rule + " then", "1", Checks.rule(forge, rule));
+        CHECKS.same("expand of " + use + " then", due, Checks.expand(forge, use, 1));
     }
 
     private static void twelve() {
@@ -193,8 +212,8 @@ final class RuleEdgesTest {
         CHECKS.same("rule 13", Checks.UNSUPPORTED, Checks.rule(forge, "(z)=1"));
         CHECKS.same("rule 13 of a macro with one", Checks.UNSUPPORTED,
                 Checks.rule(forge, "(m x)=1"));
-        CHECKS.same("it is not told", "12 1 125 2", forge.rules() + " "
-                + Checks.expand(forge, "(z)", 1));
+        CHECKS.same("they are not told", "12 1 125 2 " + Checks.ILLEGAL_STATE, forge.rules() + " "
+                + Checks.expand(forge, "(z)", 1) + " " + Checks.expand(forge, "(m 1)", 1));
         for (int n = 1; n <= 12; n++) {
             char macro = (char) ('a' + n);
             CHECKS.same("the others stay", "1" + n % 10,
